@@ -348,6 +348,7 @@ public final class EvenOars {
     /** The bytes that were fed, and a reader that goes along them word by word. */
     private static final class Tape {
         static final int MOST = 1600;
+        static final int LARGEST_NUMBER = 99999;
         private static final int DIGITS = 5;
 
         private final byte[] octets = new byte[MOST];
@@ -490,7 +491,7 @@ public final class EvenOars {
             if (below) {
                 at++;
             }
-            if (!takeNumber(0, Integer.MAX_VALUE)) {
+            if (!takeNumber(0, LARGEST_NUMBER)) {
                 return false;
             }
             valueAt = start;
@@ -782,10 +783,6 @@ public final class EvenOars {
             }
         }
 
-        private static boolean take(Tape tape, int word) {
-            return tape.takeWord(OWN_WORDS, word);
-        }
-
         private static boolean seatTold(Tape tape, Plan plan) {
             if (!tape.takeNumber(1, 99)) {
                 return false;
@@ -794,7 +791,7 @@ public final class EvenOars {
             if (plan.seatAtPlace(place) != NONE) {
                 return tape.fail(2, tape.valueAt);
             }
-            if (!take(tape, ARM) || !tape.takeNumber(1, 99)) {
+            if (!tape.takeWord(OWN_WORDS, ARM) || !tape.takeNumber(1, 99)) {
                 return false;
             }
             plan.addSeat(place, tape.value);
@@ -802,11 +799,11 @@ public final class EvenOars {
         }
 
         private static boolean rowerTold(Tape tape, Plan plan) {
-            if (!nameTold(tape, plan) || !take(tape, STRENGTH) || !tape.takeNumber(1, 99)) {
+            if (!nameTold(tape, plan) || !tape.takeWord(OWN_WORDS, STRENGTH) || !tape.takeNumber(1, 99)) {
                 return false;
             }
             int strength = tape.value;
-            if (!take(tape, TIRES) || !tape.takeNumber(0, 9)) {
+            if (!tape.takeWord(OWN_WORDS, TIRES) || !tape.takeNumber(0, 9)) {
                 return false;
             }
             plan.addRower(strength, tape.value);
@@ -855,7 +852,7 @@ public final class EvenOars {
         }
 
         private static boolean fixTold(Tape tape, Plan plan) {
-            if (!tape.takeNumber(0, Integer.MAX_VALUE)) {
+            if (!tape.takeNumber(0, Tape.LARGEST_NUMBER)) {
                 return false;
             }
             int seat = plan.seatAtPlace(tape.value);
@@ -863,7 +860,7 @@ public final class EvenOars {
                 return tape.fail(2, tape.valueAt);
             }
             boolean right = tape.wordHere(OWN_WORDS) == RIGHT;
-            if (!take(tape, right ? RIGHT : LEFT)) {
+            if (!tape.takeWord(OWN_WORDS, right ? RIGHT : LEFT)) {
                 return false;
             }
             plan.fixSeat(seat, right);
@@ -875,7 +872,7 @@ public final class EvenOars {
                 return false;
             }
             int power = tape.value;
-            if (!take(tape, IS) || !tape.takeSignedNumber(9999)) {
+            if (!tape.takeWord(OWN_WORDS, IS) || !tape.takeSignedNumber(9999)) {
                 return false;
             }
             plan.wantSwing(power, tape.value);
@@ -891,11 +888,11 @@ public final class EvenOars {
         }
 
         private static boolean runTold(Tape tape, Plan plan) {
-            if (!sidesTold(tape, plan) || !take(tape, POWER) || !tape.takeNumber(0, Plan.POWERS - 1)) {
+            if (!sidesTold(tape, plan) || !tape.takeWord(OWN_WORDS, POWER) || !tape.takeNumber(0, Plan.POWERS - 1)) {
                 return false;
             }
             int power = tape.value;
-            if (!take(tape, SWUNG) || !tape.takeSignedNumber(99999)) {
+            if (!tape.takeWord(OWN_WORDS, SWUNG) || !tape.takeSignedNumber(99999)) {
                 return false;
             }
             plan.addRun(power, tape.value);
@@ -924,7 +921,7 @@ public final class EvenOars {
                 return false;
             }
             int sum = tape.value;
-            if (!take(tape, ON) || !tape.takeNumber(0, 999)) {
+            if (!tape.takeWord(OWN_WORDS, ON) || !tape.takeNumber(0, 999)) {
                 return false;
             }
             plan.addPayment(sum, tape.value);
@@ -1379,7 +1376,7 @@ public final class EvenOars {
                 return mayOpen(tape, open) && tape.takeSign('(') && sum(tape, open + 1) && tape.takeSign(')');
             }
             if (Tape.isDigit(next)) {
-                boolean told = tape.takeNumber(0, Integer.MAX_VALUE);
+                boolean told = tape.takeNumber(0, Tape.LARGEST_NUMBER);
                 keep(tape.value);
                 return told;
             }
@@ -1464,8 +1461,8 @@ public final class EvenOars {
 
         private long answerSum(Crew crew, int from, int to) {
             long total = 0;
-            long most = Long.MIN_VALUE;
-            long least = Long.MAX_VALUE;
+            long most = -HELD;
+            long least = HELD;
             for (int stroke = from; stroke <= to; stroke++) {
                 long value = valueAt(crew, stroke);
                 total += value;
@@ -1897,7 +1894,7 @@ public final class EvenOars {
                 return false;
             }
             sailAsTheySit(crew, strokes);
-            least = Long.MAX_VALUE;
+            least = NONE;
             for (int low = 0; low < crew.plan.seats; low++) {
                 for (int high = low + 1; high < crew.plan.seats; high++) {
                     tryChange(crew, strokes, low, high);
@@ -1928,7 +1925,7 @@ public final class EvenOars {
                 behind = Math.max(behind, Math.abs(swings[k] + more * lever));
                 long most = Math.max(ahead[k], behind);
                 int stroke = Math.max(start, crew.stroke + 1);
-                if (most < least || (most == least && stroke < changeAt)) {
+                if (least == NONE || most < least || (most == least && stroke < changeAt)) {
                     least = most;
                     changeAt = stroke;
                     oneSeat = low;
@@ -1978,6 +1975,8 @@ public final class EvenOars {
         private final long[] gap = new long[Plan.RUNS];
         /** What one more of the arm that is tried brings to each run. */
         private final long[] perArm = new long[Plan.RUNS];
+        /** What one more of a rower's strength brings to a run: a row of rowers for each run. */
+        private final long[] lever = new long[Plan.RUNS * ROWERS];
         /** What the rowers from one on can bring to a run together: a row of rowers for each run. */
         private final long[] lowest = new long[Plan.RUNS * (ROWERS + 1)];
         private final long[] highest = new long[Plan.RUNS * (ROWERS + 1)];
@@ -2067,17 +2066,22 @@ public final class EvenOars {
             Arrays.fill(greatest, WEAKEST);
             for (int run = 0; run < plan.runs; run++) {
                 gap[run] = -plan.swungOf(run);
-                int k = run * (ROWERS + 1) + plan.rowers;
-                lowest[k] = 0;
-                highest[k] = 0;
-                for (int r = plan.rowers - 1; r >= 0; r--) {
-                    long lever = plan.runLever(run, r);
-                    k--;
-                    lowest[k] = lowest[k + 1] + Math.min(lever * WEAKEST, lever * STRONGEST);
-                    highest[k] = highest[k + 1] + Math.max(lever * WEAKEST, lever * STRONGEST);
-                }
+                setBounds(plan, run);
             }
             rows = rowsFrom(plan, 0);
+        }
+
+        private void setBounds(Plan plan, int run) {
+            int k = run * (ROWERS + 1) + plan.rowers;
+            lowest[k] = 0;
+            highest[k] = 0;
+            for (int r = plan.rowers - 1; r >= 0; r--) {
+                long one = plan.runLever(run, r);
+                lever[run * ROWERS + r] = one;
+                k--;
+                lowest[k] = lowest[k + 1] + Math.min(one * WEAKEST, one * STRONGEST);
+                highest[k] = highest[k + 1] + Math.max(one * WEAKEST, one * STRONGEST);
+            }
         }
 
         /** How many rows there are with the strengths tried so far, those from a rower on being free. */
@@ -2094,27 +2098,28 @@ public final class EvenOars {
             }
             int sum = 0;
             for (int strength = WEAKEST; strength <= STRONGEST; strength++) {
-                tryMore(plan, rower, strength);
+                tryMore(plan, rower, 1);
                 int more = rowsFrom(plan, rower + 1);
-                tryMore(plan, rower, -strength);
                 if (more > 0) {
                     noteStrengths(rower, strength, strength);
                 }
                 sum += more;
             }
+            tryMore(plan, rower, -STRONGEST);
             return sum;
         }
 
         private int verdictFrom(Plan plan, int rower) {
+            long near = plan.near;
             int verdict = ALWAYS;
             for (int run = 0; run < plan.runs; run++) {
                 int k = run * (ROWERS + 1) + rower;
                 long low = gap[run] + lowest[k];
                 long high = gap[run] + highest[k];
-                if (high < -plan.near || low > plan.near) {
+                if (high < -near || low > near) {
                     return NEVER;
                 }
-                if (low < -plan.near || high > plan.near) {
+                if (low < -near || high > near) {
                     verdict = PERHAPS;
                 }
             }
@@ -2135,9 +2140,9 @@ public final class EvenOars {
             long from = WEAKEST;
             long to = STRONGEST;
             for (int run = 0; run < plan.runs; run++) {
-                long lever = plan.runLever(run, rower);
-                long sum = lever < 0 ? -gap[run] : gap[run];
-                long size = Math.abs(lever);
+                long one = lever[run * ROWERS + rower];
+                long sum = one < 0 ? -gap[run] : gap[run];
+                long size = Math.abs(one);
                 if (size != 0) {
                     from = Math.max(from, -Math.floorDiv(plan.near + sum, size));
                     to = Math.min(to, Math.floorDiv(plan.near - sum, size));
@@ -2152,7 +2157,7 @@ public final class EvenOars {
 
         private void tryMore(Plan plan, int rower, int strength) {
             for (int run = 0; run < plan.runs; run++) {
-                gap[run] += plan.runLever(run, rower) * strength;
+                gap[run] += lever[run * ROWERS + rower] * strength;
             }
         }
 
