@@ -280,6 +280,9 @@ public final class QuestionTests {
             {"total min(min(min(min(min(min(1,(", 4, 32},
             {"first not not not [[[((1", 4, 21}, {"total ((((((swing 1", 4, 12}, {"total ((((((1))))))+(((((((1", 4, 26},
             {"total force swing force swing force swing 1", 0, -1}, {"total swing 1+((((((1))))))", 0, -1},
+            {"first all and (((((((1", 4, 20}, {"first all or [[[[[[[all", 4, 19},
+            {"total 1+(((((((1", 4, 14}, {"total 1*(((((((1", 4, 14}, {"first 1<(((((((1", 4, 14},
+            {"total min(1,((((((1", 4, 17}, {"total max(((((((1,2", 4, 15}, {"first [(((((((1", 4, 12},
             {"total swing((((((1))))))", 4, 16}, {"first [[[[[[123456", 1, 17}, {"first [[[[[[[", 4, 12},
         };
         for (Object[] row : rows) {
