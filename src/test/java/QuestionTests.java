@@ -17,6 +17,9 @@ public final class QuestionTests {
         for (int run = 0; run < 1500 && !Check.anyWrong(); run++) {
             randomRun(new Random(run));
         }
+        for (int run = 0; run < 3000 && !Check.anyWrong(); run++) {
+            spoiled(new Random(run));
+        }
         answers();
         faults();
         Check.done("QuestionTests");
@@ -46,6 +49,39 @@ public final class QuestionTests {
                 Check.same(boat + "\nask " + question.text, Tapes.ask(oars, question.text.toString()), due);
                 Check.same("no fault", oars.fault(0), 0);
             }
+        }
+    }
+
+    /** Up to the fault of a spoiled question some question goes on, so what stands there just ends too soon. */
+    private static void spoiled(Random random) {
+        QuestionTests made = new QuestionTests(random, new SlowOars());
+        made.text.append(random.nextBoolean() ? "first" : "often");
+        made.test(4, 0);
+        StringBuilder text = made.text;
+        String signs = "([])<>=+-*/, \nnotalswingfrce 0123456789;";
+        for (int k = 1 + random.nextInt(3); k > 0; k--) {
+            int at = random.nextInt(text.length());
+            int end = Math.min(text.length(), at + 1 + random.nextInt(8));
+            switch (random.nextInt(4)) {
+                case 0: text.delete(at, end); break;
+                case 1: text.insert(at, signs.charAt(random.nextInt(signs.length()))); break;
+                case 2: text.setCharAt(at, signs.charAt(random.nextInt(signs.length()))); break;
+                default: text.insert(random.nextInt(text.length()), text.substring(at, end)); break;
+            }
+            text.append(' ');
+        }
+        if (text.length() > 1600) {
+            return;
+        }
+        EvenOars oars = new EvenOars();
+        boolean nothing = Tapes.ask(oars, text.toString()) == NOTHING;
+        int place = oars.fault(1);
+        Check.same("nothing with a fault alone: " + text, nothing, oars.fault(0) != 0);
+        if (nothing) {
+            Check.that("a place along the text: " + text, place >= 0 && place <= text.length());
+            Tapes.ask(oars, text.substring(0, place));
+            Check.that("goes on ahead of " + place + " in " + text,
+                    oars.fault(0) == 0 || (oars.fault(0) == 1 && oars.fault(1) == place));
         }
     }
 
