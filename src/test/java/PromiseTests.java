@@ -503,7 +503,7 @@ public final class PromiseTests {
             }
             Check.same("still 8 " + bits, oars.still(8, bits), due);
         }
-        int[][] others = {{0, 0}, {17, 0}, {-1, 0}, {4, 16}, {4, -1}, {16, 65536}, {4, LARGE}, {LARGE, 0}, {4, SMALL}};
+        int[][] others = {{0, 0}, {17, 0}, {-1, 0}, {4, 16}, {4, -1}, {2, 5}, {4, 25}, {4, -7}, {16, 65536}, {4, LARGE}, {LARGE, 0}, {4, SMALL}};
         for (int[] other : others) {
             Check.same("still " + other[0] + " " + other[1], oars.still(other[0], other[1]), NONE);
         }
