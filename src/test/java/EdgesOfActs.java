@@ -21,6 +21,7 @@ final class EdgesOfActs {
         rowLeastAndMost();
         rowLast();
         rowNotBelowZero();
+        rowFull();
         rowRefused();
         undoNone();
         undoThirtyAlone();
@@ -186,6 +187,22 @@ final class EdgesOfActs {
         Check.edge(19, "STROKE 10 is", first.row(1), Math.max(0, x / 64 % 3 - 1));
     }
 
+    // Promise 19 (Terms III): 12 SEATS of the greatest places, arms and strengths, 200 STROKES, SEAT by SEAT.
+    private static void rowFull() {
+        EvenOars oars = Tapes.boat(EdgesOfBoat.greatest("left"));
+        oars.seed(LARGEST);
+        long x = LARGEST;
+        long heading = 0;
+        for (int k = 0; k < 200; k++) {
+            for (int s = 0; s < 12; s++) {
+                x = (1103515245L * x + 12345) % 2147483648L;
+                heading -= (99 + x / 64 % 3 - 1) * 99 * (99 - s);
+            }
+        }
+        Check.edge(19, "full", oars.row(200), heading);
+        Check.edge(19, "full: HEADING is more than 31 bits can hold", heading < SMALLEST, true);
+    }
+
     // Promise 19: NOTHING, refused (2), when it can't be; no DRAW then.
     private static void rowRefused() {
         for (int n : new int[] {0, -1, -200, 201, 9992, 9993, LARGEST, LARGEST - 6, SMALLEST}) {
@@ -280,6 +297,8 @@ final class EdgesOfActs {
         undone("a turn", oars -> oars.turn(2));
         undone("a swap of two ROWERS", oars -> oars.swap(1, 0));
         undone("a swap with none", oars -> oars.swap(3, 0));
+        undone("a swap with none, the other way round", oars -> oars.swap(0, 3));
+        undone("a swap with none, next to each other", oars -> oars.swap(1, 2));
         undone("the least STROKES", oars -> oars.stroke(1) == 8);
         undone("the most STROKES", oars -> oars.stroke(200) == 207);
         undone("ROWED", oars -> oars.row(200) != NOTHING);

@@ -167,8 +167,10 @@ final class EdgesOfAlike {
         Check.edge(25, "DOUBLED four times: power 3", oars.still(16, 0b0110_1001_1001_0110), 3);
         Check.edge(25, "the other way round", oars.still(16, 0b1001_0110_0110_1001), 3);
         int most = NONE;
+        EvenOars all = oars;
         for (int bits = 0; bits < 1 << 16; bits++) {
-            most = Math.max(most, new EvenOars().still(16, bits));
+            all = bits % 512 == 0 ? new EvenOars() : all;
+            most = Math.max(most, all.still(16, bits));
         }
         Check.edge(25, "the most of 16 SEATS", most, 3);
     }

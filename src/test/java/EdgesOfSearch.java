@@ -367,6 +367,20 @@ final class EdgesOfSearch {
         for (int what = 0; what <= 3; what++) {
             Check.edge(31, "the first and the last SEAT: " + what, last.under(100, what), far[what]);
         }
+        EvenOars behind = Tapes.boat("seat 9 arm 9;seat 3 arm 1;seat 1 arm 1;fix 9 left;fix 3 right;fix 1 left;"
+                + "rower a strength 1 tires 0;rower b strength 50 tires 0;rower c strength 99 tires 0;");
+        // As they sit it is -81 + 150 - 99, with 1 and 2 changed -81 + 297 - 50.
+        int[] worse = {166, 1, 1, 2};
+        for (int what = 0; what <= 3; what++) {
+            Check.edge(31, "neither is SEAT 0: " + what, behind.under(1, what), worse[what]);
+        }
+        // As they sit 5, 4, 0 in the tens; with 0 and 1 changed 20, 11, 0, so from 20 on these are as good.
+        EvenOars first = Tapes.boat("seat 1 arm 1;seat 2 arm 1;seat 3 arm 1;seat 4 arm 1;rower a strength 15 tires 9;"
+                + "rower b strength 10 tires 9;");
+        int[] soonest = {5, 1, 2, 3};
+        for (int what = 0; what <= 3; what++) {
+            Check.edge(31, "the first by STROKES ahead of lesser SEATS: " + what, first.under(25, what), soonest[what]);
+        }
         EvenOars other = Tapes.boat("seat 9 arm 9;seat 8 arm 9;seat 2 arm 1;seat 1 arm 1;rower a strength 5 tires 0;");
         other.swap(0, 3);
         int[] stays = {5, 1, 0, 1};

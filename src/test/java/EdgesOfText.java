@@ -22,6 +22,8 @@ final class EdgesOfText {
         textRefusedAllStays();
         textTakenNothingToUndo();
         textSeedStays();
+        textAgainAndAgain();
+        textBehindFaults();
         faultAheadOfAnyAndOfTheLatest();
         seatsAndRowersTold();
         namesTold();
@@ -202,6 +204,39 @@ final class EdgesOfText {
         Check.edge(4, "the seed stays", oars.row(100), headingAlone(99, 100));
         Tapes.text(oars, boat);
         Check.edge(4, "the seed stays as DRAWS left it", oars.row(50), headingAlone(99, 150) - headingAlone(99, 100));
+    }
+
+    // Promise 4: nothing of a former BOAT stays, however many there were: full, empty, small ones in turn.
+    private static void textAgainAndAgain() {
+        String full = EdgesOfBoat.greatest("right") + "each 3;near 4;want 0 is 5;want 1 is 6;want 2 is 7;want 3 is 8;"
+                + "run rrrrrrrrrrrr power 1 swung 9;run llllllllllll power 2 swung 10;"
+                + "pay 5 on 6;pay 5 on 6;" + "near 7;".repeat(20);
+        String small = "seat 2 arm 3;seat 4 arm 5;rower xy strength 6 tires 7;run xr power 0 swung 0;pay 5 on 6;";
+        String other = "seat 2 arm 3;rower xyz strength 2 tires 1;rower yz strength 2 tires 1;run r power 1 swung 24;near 5;";
+        String[] boats = {full, "", small, other, full, small, "", "", other, small, full, full, other, ""};
+        for (int from = 0; from + 5 <= boats.length; from++) {
+            EvenOars oars = new EvenOars();
+            for (int k = 0; k < 4; k++) {
+                Tapes.text(oars, boats[from + k]);
+                oars.strengths(0, 0);
+                oars.stroke(3);
+            }
+            Check.edge(4, "the fifth BOAT", Tapes.text(oars, boats[from + 4]) >= 0, true);
+            Check.edge(4, "nothing of the former four", Look.at(oars).equals(Look.at(Tapes.boat(boats[from + 4]))), true);
+        }
+    }
+
+    // Promise 4: blanks ahead of a text as long as what the former one had before its FAULT.
+    private static void textBehindFaults() {
+        EvenOars oars = new EvenOars();
+        Tapes.text(oars, "near");
+        Check.edge(4, "a word where the former text ended", Tapes.text(oars, "    near 1;"), 1);
+        Tapes.text(oars, "near 1");
+        Check.edge(4, "a word where the former text ended in a number", Tapes.text(oars, "      near 1;"), 1);
+        Tapes.ask(oars, "first");
+        Check.edge(37, "a word where the former question ended", Tapes.ask(oars, "     often all"), 101);
+        Tapes.text(oars, "near");
+        Check.edge(37, "a word where a text ended", Tapes.ask(oars, "    often all"), 101);
     }
 
     // Promise 5: ahead of any; of the latest text() or ask(); other numbers.

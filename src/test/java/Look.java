@@ -12,13 +12,16 @@ final class Look {
         for (int k = 0; k <= 10; k++) {
             add(seen, oars.boat(k));
         }
-        for (int s = 0; s < oars.boat(0); s++) {
+        int seats = oars.boat(0);
+        int rowers = oars.boat(1);
+        for (int s = 0; s < seats; s++) {
             for (int k = 0; k <= 5; k++) {
                 add(seen, oars.seat(s, k));
             }
         }
-        for (int r = 0; r < oars.boat(1); r++) {
-            for (int k = 0; k <= 5; k++) {
+        for (int r = 0; r < rowers; r++) {
+            // Not all letters: an object may be asked 512 times.
+            for (int k = 0; k <= 5 && (r == 0 || r == rowers - 1); k++) {
                 add(seen, oars.letter(r, k));
             }
             for (int k = 0; k <= 3; k++) {
@@ -34,7 +37,7 @@ final class Look {
         for (long other : others) {
             add(seen, other);
         }
-        for (int k = 0; k <= 11 + 2 * oars.boat(0); k++) {
+        for (int k = 0; k <= 11 + 2 * seats; k++) {
             add(seen, oars.octet(k));
         }
         return seen.toString();
