@@ -27,6 +27,7 @@ final class EdgesOfQuestion {
         faultsOfBlanks();
         faultsOfNumbers();
         fullTape();
+        questionsInTurn();
         tapeGoesAllStays();
     }
 
@@ -376,6 +377,22 @@ final class EdgesOfQuestion {
         answers("most " + "(".repeat(6) + "1" + ")+1".repeat(6), 7);
         answers("total 1" + "-1".repeat(796), -101L * 795);
         faulty("most 1" + "+1".repeat(796) + "+ ", 1, 1600);
+    }
+
+    // Promise 37: one question behind the other: at the last STROKE, many, large ones.
+    private static void questionsInTurn() {
+        EvenOars last = at(9999);
+        answers("most swing 0", last, 9801);
+        Check.edge(37, "the last STROKE alone, behind a turn", last.turn(1), true);
+        answers("most swing 0", last, -9801);
+        EvenOars many = new EvenOars();
+        for (int k = 0; k < 70; k++) {
+            Check.edge(37, "question " + k + " of one object", Tapes.ask(many, "most ((" + k + "+1))*1+(1-1)"), k + 1);
+        }
+        EvenOars large = new EvenOars();
+        for (int k = 0; k < 5; k++) {
+            Check.edge(37, "large question " + k + " of one object", Tapes.ask(large, "most 1" + "+1".repeat(790 + k)), 791 + k);
+        }
     }
 
     // Promise 37: the tape goes, all else stays.

@@ -213,7 +213,11 @@ final class EdgesOfText {
                 + "pay 5 on 6;pay 5 on 6;" + "near 7;".repeat(20);
         String small = "seat 2 arm 3;seat 4 arm 5;rower xy strength 6 tires 7;run xr power 0 swung 0;pay 5 on 6;";
         String other = "seat 2 arm 3;rower xyz strength 2 tires 1;rower yz strength 2 tires 1;run r power 1 swung 24;near 5;";
-        String[] boats = {full, "", small, other, full, small, "", "", other, small, full, full, other, ""};
+        String fixed = "seat 2 arm 3;seat 4 arm 5;fix 2 left;fix 4 left;rower a strength 1 tires 0;rower b strength 2 tires 0;"
+                + "run lr power 0 swung 7;";
+        String behind = "seat 4 arm 3;run l power 0 swung -3;seat 2 arm 5;rower b strength 1 tires 0;rower a strength 2 tires 0;";
+        String[] boats = {full, "", small, other, full, small, "", "", other, small, full, full, other, "",
+            fixed, other, small, behind, fixed, full, behind, "", fixed, behind, behind, other, fixed};
         for (int from = 0; from + 5 <= boats.length; from++) {
             EvenOars oars = new EvenOars();
             for (int k = 0; k < 4; k++) {
