@@ -668,7 +668,8 @@ public final class EvenOars {
         }
 
         long leverOf(int power, int seat) {
-            return isPower(power) && isSeat(seat) ? lever[power * SEATS + seat] : 0;
+            boolean known = power >= 0 && power < POWERS && seat >= 0 && seat < seats;
+            return known ? lever[power * SEATS + seat] : 0;
         }
 
         boolean allows(int bits) {
@@ -986,7 +987,7 @@ public final class EvenOars {
         }
 
         int strengthAt(int rower, int atStroke) {
-            if (!plan.isRower(rower)) {
+            if (rower < 0 || rower >= plan.rowers) {
                 return 0;
             }
             return Math.max(0, plan.strength[rower] - plan.tires[rower] * (atStroke / 10));
@@ -1447,6 +1448,7 @@ public final class EvenOars {
             int last = NONE;
             int often = 0;
             for (int stroke = from; stroke <= to; stroke++) {
+                keepTen(crew, stroke);
                 if (valueAt(crew, stroke) != 0) {
                     first = first == NONE ? stroke : first;
                     last = stroke;
@@ -1464,6 +1466,7 @@ public final class EvenOars {
             long most = -HELD;
             long least = HELD;
             for (int stroke = from; stroke <= to; stroke++) {
+                keepTen(crew, stroke);
                 long value = valueAt(crew, stroke);
                 total += value;
                 most = Math.max(most, value);
@@ -1476,7 +1479,6 @@ public final class EvenOars {
         }
 
         private long valueAt(Crew crew, int stroke) {
-            keepTen(crew, stroke);
             top = 0;
             for (int k = 0; k < used; k++) {
                 int entry = codes[k];

@@ -12,6 +12,7 @@ public final class EdgeTests {
         EdgesOfRuns.run();
         EdgesOfQuestion.run();
         EdgesOfImage.run();
+        EdgesInTurn.run();
         Check.everyPromiseHasEdges();
         Check.done("EdgeTests");
     }

@@ -301,6 +301,11 @@ final class EdgesOfQuestion {
         faulty("firs all", 1, 0);
         faulty("firsts all", 1, 0);
         faulty("First all", 1, 0);
+        for (String word : new String[] {"or", "and", "not", "all", "stroke", "off", "good", "swing", "force", "min", "max"}) {
+            faulty(word, 1, 0);
+            faulty(word + " 5", 1, 0);
+            faulty(word + " all", 1, 0);
+        }
         faulty("first al", 1, 6);
         faulty("first alls", 1, 6);
         faulty("first ALL", 1, 6);

@@ -152,6 +152,11 @@ final class EdgesOfRuns {
         rows("one told behind the RUN", "seat 1 arm 5;run r power 0 swung 5;rower b strength 1 tires 0;", 0, 1, 1, 1);
         rows("more rows than one of the first", TWO + "run rr power 0 swung 19;", 0, 3, 4, 6);
         rows("the last one of two", TWO + "run rr power 0 swung 19;", 1, 3, 1, 7);
+        rows("9 and 9 alone, the first one", TWO + "run rr power 0 swung 36;", 0, 1, 9, 9);
+        rows("9 and 9 alone, the last one", TWO + "run rr power 0 swung 36;", 1, 1, 9, 9);
+        rows("1 and 1 alone", TWO + "run rr power 0 swung 4;", 0, 1, 1, 1);
+        rows("9 and 1 alone", TWO + "run rl power 0 swung 26;", 0, 1, 9, 9);
+        rows("1 and 9 alone", TWO + "run lr power 0 swung 6;", 1, 1, 9, 9);
     }
 
     private static void rows(String which, String text, int rower, int count, int least, int greatest) {

@@ -18,10 +18,12 @@ final class EdgesOfSearch {
         seatedNoneToFive();
         seatedOfLikeOnes();
         changesNoneToThree();
+        changesOfBothKinds();
         changesNotEnough();
         changesOfFixedAndEmptySeats();
         raceOfOthers();
         raceFirstAndLastStroke();
+        racesBeyondHundred();
         raceAtTheEnd();
         stillestOfOthers();
         stillestWithoutLawful();
@@ -185,6 +187,24 @@ final class EdgesOfSearch {
         Check.edge(28, "LAWFUL, but not GOOD", Tapes.boat(boat + "want 0 is 7;each 3;").changes(), 1);
     }
 
+    // Promise 28: each way to part 2, 3 and 4 ACTS into turns and swaps; LAWFUL behind them, whatever it is now.
+    private static void changesOfBothKinds() {
+        String boat = alike(8, 1, 2, 4, 8);
+        String[] wants = {"want 0 is -3;want 1 is -17;each 4;", "want 0 is 3;want 1 is 24;each 5;", "want 0 is -5;want 1 is -8;each 4;",
+            "want 0 is 11;want 1 is 41;each 3;", "want 0 is 9;want 1 is 71;want 2 is 539;each 4;",
+            "want 0 is -13;want 1 is -52;want 2 is -226;each 5;", "want 0 is 5;want 1 is 11;want 2 is -21;each 4;",
+            "want 0 is -5;want 1 is -23;want 2 is -99;each 4;", "want 0 is -5;want 1 is 5;want 2 is 177;each 4;"};
+        String[] kinds = {"2 turns", "a turn and a swap", "2 swaps", "3 turns", "2 turns and a swap", "a turn and 2 swaps",
+            "3 swaps", "4 turns", "2 turns and 2 swaps"};
+        int[] due = {2, 2, 2, 3, 3, 3, 3, NONE, NONE};
+        for (int k = 0; k < wants.length; k++) {
+            Check.edge(28, kinds[k], Tapes.boat(boat + wants[k]).changes(), due[k]);
+        }
+        // Two turns of a SEAT without a ROWER and another one are one but for the number to the left.
+        Check.edge(28, "any may row to the left: one turn", Tapes.boat(boat + "want 0 is 7;want 1 is 25;").changes(), 1);
+        Check.edge(28, "4 are to: two turns", Tapes.boat(boat + "want 0 is 7;want 1 is 25;each 4;").changes(), 2);
+    }
+
     // Promise 28: NONE when 3 are not enough.
     private static void changesNotEnough() {
         Check.edge(28, "4 turns", Tapes.boat(alike(8, 1, 2, 4, 8) + "each 0;").changes(), NONE);
@@ -241,6 +261,32 @@ final class EdgesOfSearch {
         Check.edge(29, "the first STROKE is 10: this one does not count", tired.race(1), 6);
         Check.edge(29, "the first STROKE is 10: this one does not count", tired.race(300), 6);
         Check.edge(29, "without sign", Tapes.boat("seat 1 arm 1;rower a strength 7 tires 0;fix 1 left;").race(1), 7);
+    }
+
+    // Promises 29 to 31 (Terms II): STROKES with three digits: floor(STROKE / 10) at their ends.
+    private static void racesBeyondHundred() {
+        // As they sit 0, 1, 2, .. in the tens, to the other side of SEAT 0 100, 99, ..
+        EvenOars oars = Tapes.boat("seat 1 arm 1;seat 2 arm 1;rower a strength 50 tires 1;rower b strength 25 tires 0;");
+        for (int n : new int[] {9, 10, 99, 100, 109, 110, 299, 300}) {
+            Check.edge(29, "the last STROKE is " + n, oars.race(n), n / 10);
+            Check.edge(30, "the last STROKE is " + n, oars.stillest(n, 0), n / 10);
+            Check.edge(30, "the last STROKE is " + n + ", the least bits", oars.stillest(n, 1), 1);
+        }
+        oars.stroke(149);
+        Check.edge(29, "the first STROKE is 150", oars.race(9), 15);
+        Check.edge(29, "the last STROKE is 449", oars.race(300), 44);
+        Check.edge(30, "the last STROKE is 449", oars.stillest(300, 0), 44);
+        // As they sit 50 and more; changed from STROKE 150 on 50 less 2 in each ten.
+        EvenOars change = Tapes.boat("seat 1 arm 1;seat 2 arm 1;rower a strength 50 tires 1;rower b strength 50 tires 0;");
+        change.stroke(149);
+        Check.edge(31, "the first STROKE is 150: GREATEST", change.under(100, 0), 20);
+        Check.edge(31, "the first STROKE is 150", change.under(100, 1), 150);
+        change.stroke(1);
+        Check.edge(31, "the first STROKE is 151: GREATEST", change.under(100, 0), 20);
+        Check.edge(31, "the first STROKE is 151", change.under(100, 1), 151);
+        change.stroke(9);
+        Check.edge(31, "the first STROKE is 160: GREATEST", change.under(1, 0), 18);
+        Check.edge(31, "the first STROKE is 160", change.under(1, 1), 160);
     }
 
     // Promise 29: a RACE goes on beyond STROKE 9999, as those who do not tire row on.
@@ -345,6 +391,12 @@ final class EdgesOfSearch {
         Check.edge(31, "until STROKE 10, the last one", oars.under(10, 1), 10);
         Check.edge(31, "until STROKE 20, the last one: GREATEST", oars.under(20, 0), 9);
         Check.edge(31, "until STROKE 20, the last one", oars.under(20, 1), 20);
+        // To the other sides all is below 0.
+        EvenOars below = Tapes.boat("seat 1 arm 1;seat 2 arm 1;rower a strength 20 tires 9;rower b strength 10 tires 0;"
+                + "fix 1 right;fix 2 left;");
+        Check.edge(31, "below 0, until STROKE 10: GREATEST", below.under(10, 0), 12);
+        Check.edge(31, "below 0, until STROKE 20: GREATEST", below.under(20, 0), 9);
+        Check.edge(31, "below 0, until STROKE 20, the last one", below.under(20, 1), 20);
         oars.stroke(9);
         Check.edge(31, "from STROKE 10 on: GREATEST", oars.under(1, 0), 12);
         Check.edge(31, "from STROKE 10 on: the STROKE", oars.under(1, 1), 10);

@@ -291,6 +291,12 @@ final class EdgesOfText {
         told(which + " too large", ahead + (most + 1) + behind, 2, ahead.length());
         told(which + " far too large", ahead + "99999" + behind, 2, ahead.length());
         told(which + " below 0", ahead + "-1" + behind, 1, ahead.length());
+        // The first FAULT along the text, whatever stands behind it.
+        told(which + " too large, and the text ends", ahead + (most + 1), 2, ahead.length());
+        told(which + " too large, and no such text goes on", ahead + (most + 1) + "?", 2, ahead.length());
+        told(which + " too large, and a blank lacks behind it", ahead + (most + 1) + "z", 2, ahead.length());
+        told(which + " too large, and more behind it", ahead + (most + 1) + behind + "pay 0 on 0;?", 2, ahead.length());
+        told(which + ", and the text ends", ahead + most, 1, ahead.length() + String.valueOf(most).length());
     }
 
     // Terms I: places and arms 1 .. 99, unlike places, strengths 1 .. 99, tires 0 .. 9.
@@ -317,6 +323,9 @@ final class EdgesOfText {
         told("the sign behind z", "rower { strength 1 tires 0;", 1, 6);
         told("a great letter", "rower Ann strength 1 tires 0;", 1, 6);
         told("a NAME that is there already", "rower ab strength 1 tires 0;rower ab strength 2 tires 0;", 3, 34);
+        told("the first NAME of three once more", "rower ab strength 1 tires 0;rower abc strength 2 tires 0;"
+                + "rower b strength 2 tires 0;rower ab", 3, 90);
+        told("a NAME that is there already, and a digit behind it", "rower ab strength 1 tires 0;rower ab1", 3, 34);
         told("a NAME of 6 letters that is there already",
                 "rower abcdef strength 1 tires 0;rower abcdef strength 2 tires 0;", 3, 38);
         told("the beginning of a NAME that is there", "rower abc strength 1 tires 0;rower ab strength 2 tires 0;", 0, NONE);
@@ -362,6 +371,8 @@ final class EdgesOfText {
         told("what is wanted, too small: at its sign", "want 1 is -10000;", 2, 10);
         told("what is wanted, too small: at its sign, blanks behind it", "want 1 is -\n 10000;", 2, 10);
         told("what is wanted, too large", "want 1 is 10000;", 2, 10);
+        told("what is wanted, too large, and the text ends", "want 1 is 10000", 2, 10);
+        told("what is wanted, too small, and no such text goes on", "want 1 is - 10000?", 2, 10);
         told("a sign alone", "want 1 is -;", 1, 11);
         told("two signs", "want 1 is --1;", 1, 11);
         told("a sign that is none", "want 1 is +1;", 1, 10);
@@ -371,6 +382,7 @@ final class EdgesOfText {
         told("fix of 0", "seat 2 arm 1;fix 0 left;", 2, 17);
         told("fix of a place beyond all", "seat 2 arm 1;fix 99999 left;", 2, 17);
         told("fix of a place that comes behind", "fix 2 left;seat 2 arm 1;", 2, 4);
+        told("fix of a place there is not, and the text ends", "seat 2 arm 1;fix 1", 2, 17);
         told("fix of a place by zeros", "seat 2 arm 1;fix 00002 right;", 0, NONE);
         told("fix to no side", "seat 2 arm 1;fix 2;", 1, 18);
     }
