@@ -301,6 +301,10 @@ final class EdgesOfQuestion {
         faulty("firs all", 1, 0);
         faulty("firsts all", 1, 0);
         faulty("First all", 1, 0);
+        faulty("5 < 6", 1, 0);
+        faulty("[all]", 1, 0);
+        faulty("(5) < 6", 1, 0);
+        faulty(" - 5", 1, 1);
         for (String word : new String[] {"or", "and", "not", "all", "stroke", "off", "good", "swing", "force", "min", "max"}) {
             faulty(word, 1, 0);
             faulty(word + " 5", 1, 0);

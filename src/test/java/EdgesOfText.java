@@ -450,6 +450,12 @@ final class EdgesOfText {
         told("a 13th SEAT", seats + " seat 1 arm 1;", 5, seats.length() + 1);
         told("a 13th SEAT, whatever stands behind it", seats + "seat?", 5, seats.length());
         told("no 13th SEAT but another word", seats + "seats", 1, seats.length());
+        told("no 13th SEAT but a NUMBER", seats + " 5 arm 1;", 1, seats.length() + 1);
+        told("no 13th SEAT but a sign", seats + ";", 1, seats.length());
+        told("no 13th SEAT but another STATEMENT", seats + "fix 99 left;near 1;", 0, NONE);
+        told("a 13th ROWER ahead of a NAME that is there", rowers + "rower a", 5, rowers.length());
+        told("a 9th RUN, whatever stands behind it", runs + "run", 5, runs.length());
+        told("a 13th PAYMENT, whatever stands behind it", "pay 1 on 0;".repeat(12) + "pay 0", 5, 132);
         told("full: 12 ROWERS", rowers.toString(), 0, NONE);
         told("a 13th ROWER", rowers + "rower z strength 1 tires 0;", 5, rowers.length());
         told("full: 8 RUNS", runs, 0, NONE);
