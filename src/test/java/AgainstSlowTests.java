@@ -8,21 +8,19 @@ public final class AgainstSlowTests {
     }
 
     public static void main(String[] args) {
+        for (int run = 0; run < 800 && !Check.anyWrong(); run++) {
+            oneRun(run, new Random(run), 6, 6);
+        }
         for (int run = 0; run < 400 && !Check.anyWrong(); run++) {
-            Random random = new Random(run);
-            oneRun(run, random, 6, 6);
+            oneRun(run, new Random(10000 + run), 5, 4);
         }
-        for (int run = 0; run < 150 && !Check.anyWrong(); run++) {
-            Random random = new Random(10000 + run);
-            oneRun(run, random, 5, 4);
-        }
-        for (int run = 0; run < 25 && !Check.anyWrong(); run++) {
-            Random random = new Random(20000 + run);
-            oneRun(run, random, 12, 12);
+        for (int run = 0; run < 60 && !Check.anyWrong(); run++) {
+            oneRun(run, new Random(20000 + run), 12, 12);
         }
         Check.done("AgainstSlowTests");
     }
 
+    /** Few steps, and a part of the state behind each: an object is used for at most 512 calls. */
     private static void oneRun(int run, Random random, int seats, int rowers) {
         SlowOars slow = SlowOars.random(random, seats, rowers);
         slow.orderRuns();
@@ -37,8 +35,8 @@ public final class AgainstSlowTests {
             return;
         }
         Check.same(at + "text", Tapes.text(oars, text), semicolons);
-        compareStill(at, oars, slow);
-        for (int step = 0; step < 12; step++) {
+        compareStill(at, oars, slow, random);
+        for (int step = 0; step < 6; step++) {
             String act = at + act(oars, slow, random) + " ";
             compareState(act, oars, slow, random);
             if (step % 3 == 0) {
@@ -76,7 +74,7 @@ public final class AgainstSlowTests {
         }
     }
 
-    private static void compareStill(String at, EvenOars oars, SlowOars slow) {
+    private static void compareStill(String at, EvenOars oars, SlowOars slow, Random random) {
         Check.same(at + "fits", oars.fits(), slow.fits(slow.strength, slow.arm));
         Check.same(at + "crooked", oars.crooked(), slow.crooked());
         if (slow.strength.length > 6) {
@@ -93,7 +91,8 @@ public final class AgainstSlowTests {
         int[] heirs = slow.paid.isEmpty() ? new int[] {-1, -1} : slow.heirs();
         Check.same(at + "heirs 0", oars.heirs(0), heirs[0]);
         Check.same(at + "heirs 1", oars.heirs(1), heirs[1]);
-        for (int bits = -1; bits < 40; bits += 1 + bits / 5) {
+        for (int k = 0; k < 4; k++) {
+            int bits = random.nextInt(40) - 1;
             Check.same(at + "apart " + bits, oars.apart(bits, false), slow.apart(bits, false));
             Check.same(at + "apart " + bits, oars.apart(bits, true), slow.apart(bits, true));
         }
@@ -107,33 +106,39 @@ public final class AgainstSlowTests {
         Check.same(at + "good", oars.good() == 1, slow.good(slow.stroke, slow.rowerOf, slow.right));
         Check.same(at + "lawful", oars.lawful() == 1, slow.lawful(slow.right));
         int there = random.nextInt(400);
-        for (int p = 0; p < 4; p++) {
-            Check.same(at + "want", oars.want(p), slow.wanted[p] == null ? NOTHING : slow.wanted[p]);
-            Check.same(at + "swing", oars.swing(p, slow.stroke), slow.swing(p, slow.stroke));
-            Check.same(at + "swing", oars.swing(p, there), slow.swing(p, there));
-        }
+        int p = random.nextInt(4);
+        Check.same(at + "want", oars.want(p), slow.wanted[p] == null ? NOTHING : slow.wanted[p]);
+        Check.same(at + "swing", oars.swing(p, slow.stroke), slow.swing(p, slow.stroke));
+        Check.same(at + "swing", oars.swing(p, there), slow.swing(p, there));
         int left = 0;
-        for (int s = 0; s < slow.place.length; s++) {
-            left += slow.right[s] ? 0 : 1;
-            Check.same(at + "seat", oars.seat(s, 0), slow.place[s]);
-            Check.same(at + "seat", oars.seat(s, 1), slow.arm[s]);
-            Check.same(at + "seat", oars.seat(s, 2), slow.rowerOf[s]);
-            Check.same(at + "seat", oars.seat(s, 3) == 1, slow.right[s]);
-            Check.same(at + "seat", oars.seat(s, 4) == 1, slow.fixed[s] != 0);
-            int force = slow.strengthAt(slow.rowerOf[s], slow.stroke);
-            Check.same(at + "seat", oars.seat(s, 5), (long) force * slow.arm[s]);
-            if (slow.rowerOf[s] != -1) {
-                Check.same(at + "rower", oars.rower(slow.rowerOf[s], 3), s);
-            }
+        for (boolean right : slow.right) {
+            left += right ? 0 : 1;
         }
         Check.same(at + "left", oars.boat(10), left);
-        for (int r = 0; r < slow.strength.length; r++) {
+        if (slow.place.length > 0) {
+            compareSeat(at, oars, slow, random.nextInt(slow.place.length));
+        }
+        if (slow.strength.length > 0) {
+            int r = random.nextInt(slow.strength.length);
             Check.same(at + "rower", oars.rower(r, 2), slow.strengthAt(r, slow.stroke));
         }
         int[] image = slow.image();
         Check.same(at + "image", oars.image(), image.length);
         for (int k = 0; k < image.length; k++) {
             Check.same(at + "octet " + k, oars.octet(k), image[k]);
+        }
+    }
+
+    private static void compareSeat(String at, EvenOars oars, SlowOars slow, int s) {
+        Check.same(at + "seat", oars.seat(s, 0), slow.place[s]);
+        Check.same(at + "seat", oars.seat(s, 1), slow.arm[s]);
+        Check.same(at + "seat", oars.seat(s, 2), slow.rowerOf[s]);
+        Check.same(at + "seat", oars.seat(s, 3) == 1, slow.right[s]);
+        Check.same(at + "seat", oars.seat(s, 4) == 1, slow.fixed[s] != 0);
+        int force = slow.strengthAt(slow.rowerOf[s], slow.stroke);
+        Check.same(at + "seat", oars.seat(s, 5), (long) force * slow.arm[s]);
+        if (slow.rowerOf[s] != -1) {
+            Check.same(at + "rower", oars.rower(slow.rowerOf[s], 3), s);
         }
     }
 

@@ -446,6 +446,8 @@ public final class PromiseTests {
             int k = 0;
             for (int bits = 0; bits < 1 << n; bits++) {
                 if (isWay(n, bits)) {
+                    // Of 16 seats there are more ways than calls that an object may be asked.
+                    oars = k % 400 == 0 ? new EvenOars() : oars;
                     Check.same("made " + n + " " + k, oars.made(n, k), bits);
                     k++;
                 }
@@ -885,8 +887,8 @@ public final class PromiseTests {
         int[] numbers = {SMALL, -100, -2, -1, 0, 1, 2, 3, 5, 11, 12, 13, 20, 40, 99, 300, 9999, 65536, LARGE};
         String[] boats = {"", FOUR, "seat 1 arm 1;each 12;", "rower a strength 1 tires 0;pay 1 on 1;"};
         for (String text : boats) {
-            EvenOars oars = Tapes.boat(text);
             for (int a : numbers) {
+                EvenOars oars = Tapes.boat(text);
                 oars.end(a);
                 oars.fault(a);
                 oars.boat(a);
@@ -916,8 +918,8 @@ public final class PromiseTests {
                     oars.strengths(a, b);
                     oars.apart(a, (b & 1) == 0);
                 }
+                Check.same("still answers", oars.boat(5), 0);
             }
-            Check.same("still answers", oars.boat(5), 0);
         }
     }
 }
