@@ -33,6 +33,8 @@ final class EdgesInTurn {
             Check.edge(4, "asked again, all is as it was: BOAT " + second, asked(fresh).equals(asked(fresh)), true);
             for (int first = 0; first < boats.length; first++) {
                 EvenOars oars = new EvenOars();
+                // Told twice: whatever keeps a boat beside the one that is read has been used then.
+                Tapes.text(oars, boats[first]);
                 Tapes.text(oars, boats[first]);
                 oars.turn(0);
                 oars.swap(0, 1);
@@ -70,6 +72,9 @@ final class EdgesInTurn {
         Tapes.text(oars, boat);
         StringBuilder seen = new StringBuilder(Look.at(oars));
         oars.seed(12345);
+        for (int k = 0; k <= 6; k++) {
+            seen.append(' ').append(Tapes.ask(oars, "most force " + k));
+        }
         seen.append(" rowed ").append(oars.row(12)).append(' ').append(oars.image()).append(' ').append(oars.octet(1));
         return seen.append(asked(oars)).toString();
     }
